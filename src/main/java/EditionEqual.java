@@ -266,7 +266,7 @@ public final class EditionEqual {
     }
 
     private static boolean holds(int set, int number) {
-        return (set & bitOf(number)) != 0;
+        return number >= 0 && number < 32 && (set >>> number & 1) != 0;
     }
 
     /** The blocks of one edition, their wires, and its outputs. */
@@ -352,7 +352,7 @@ public final class EditionEqual {
         }
 
         boolean hasBlock(int block) {
-            return isWithin(block, blockCount);
+            return block >= 0 && block < blockCount;
         }
 
         boolean hasBlockOrNone(int block) {
@@ -394,7 +394,7 @@ public final class EditionEqual {
         private int firstUnwired() {
             for (int block = 0; block < blockCount; block++) {
                 for (int input = 0; input < neededInputs[block]; input++) {
-                    if (neededAt(block, input) == NONE) {
+                    if (wires[block * INPUTS + input] == NONE) {
                         return block;
                     }
                 }
@@ -465,7 +465,7 @@ public final class EditionEqual {
         private final int[] queue = new int[MOST_STATES];
         private final int[] classes = new int[MOST_STATES];
         private final int[] keys = new int[MOST_STATES];
-        private final int[] classOfKey = new int[MOST_STATES * MOST_STATES];
+        private final int[] newClasses = new int[MOST_STATES];
         private int orderedCount = 0;
         private int stateCount = 1;
         private int reachedStates = 0;
@@ -648,19 +648,27 @@ public final class EditionEqual {
 
         /** Reached states stay in one class if they were in one and their keys are the same. */
         private int partByKeys() {
-            Arrays.fill(classOfKey, NONE);
             int count = 0;
             for (int state = 0; state < MOST_STATES; state++) {
-                int slot = classes[state] * MOST_STATES + keys[state];
-                if (holds(reachedStates, state) && isWithin(slot, MOST_STATES * MOST_STATES)) {
-                    if (classOfKey[slot] == NONE) {
-                        classOfKey[slot] = count;
-                        count++;
-                    }
-                    classes[state] = classOfKey[slot];
+                if (holds(reachedStates, state)) {
+                    int like = firstLike(state);
+                    newClasses[state] = like < state ? newClasses[like] : count;
+                    count += like < state ? 0 : 1;
                 }
             }
+            System.arraycopy(newClasses, 0, classes, 0, MOST_STATES);
             return count;
+        }
+
+        /** The least reached state of the same class and key; the state itself if there is no other. */
+        private int firstLike(int state) {
+            for (int other = 0; other < state; other++) {
+                boolean like = classes[other] == classes[state] && keys[other] == keys[state];
+                if (like && holds(reachedStates, other)) {
+                    return other;
+                }
+            }
+            return state;
         }
     }
 
@@ -671,14 +679,16 @@ public final class EditionEqual {
     private static final class PairSearch {
         private final Behaviour first;
         private final Behaviour second;
-        private final boolean[] met = new boolean[MOST_PAIRS];
+        /** For each state of the first edition the set of those of the second met with it. */
+        private final int[] met = new int[MOST_STATES];
         private final int[] queue = new int[MOST_PAIRS];
         private final int[] cameFrom = new int[MOST_PAIRS];
         private final int[] cameBy = new int[MOST_PAIRS];
-        private final int[] depths = new int[MOST_PAIRS];
-        private final int[] shownRows = new int[MOST_PAIRS];
         private int pairCount = 0;
         private int shownCount = 0;
+        /** Where in the queue the last tick shown starts, and its row. */
+        private int shownFrom = 0;
+        private int shownLast = 0;
         private int firstOuts = NONE;
         private int secondOuts = NONE;
         private boolean known = false;
@@ -696,7 +706,7 @@ public final class EditionEqual {
             if (known) {
                 return;
             }
-            Arrays.fill(met, false);
+            Arrays.fill(met, 0);
             pairCount = 0;
             shownCount = 0;
             firstOuts = NONE;
@@ -716,8 +726,16 @@ public final class EditionEqual {
             return shownCount;
         }
 
+        /** Where each pair came from is known, so that the rows are found from the last one back. */
         int shownRow(int k) {
-            return isWithin(k, shownCount) ? shownRows[k] : NONE;
+            if (k >= shownCount - 1) {
+                return shownLast;
+            }
+            int at = shownFrom;
+            for (int back = shownCount - 2; back > k; back--) {
+                at = cameFrom[at];
+            }
+            return cameBy[at];
         }
 
         int lastOuts(int edition) {
@@ -732,34 +750,31 @@ public final class EditionEqual {
                     if (shownCount == 0 && first.outsOf(one, row) != second.outsOf(other, row)) {
                         firstOuts = first.outsOf(one, row);
                         secondOuts = second.outsOf(other, row);
-                        keepRows(head, row);
+                        keepShown(head, row);
                     }
-                    int pair = first.stateAfter(one, row) * MOST_STATES + second.stateAfter(other, row);
-                    meet(pair, head, row, depths[head] + 1);
+                    meet(first.stateAfter(one, row), second.stateAfter(other, row), head, row);
                 }
             }
         }
 
-        private void meet(int pair, int from, int row, int depth) {
-            if (isWithin(pair, MOST_PAIRS) && !met[pair] && pairCount < MOST_PAIRS) {
-                met[pair] = true;
-                queue[pairCount] = pair;
+        private void meet(int one, int other, int from, int row) {
+            boolean isNew = isWithin(one, MOST_STATES) && !holds(met[one], other);
+            if (isNew && pairCount < MOST_PAIRS) {
+                met[one] |= bitOf(other);
+                queue[pairCount] = one * MOST_STATES + other;
                 cameFrom[pairCount] = from;
                 cameBy[pairCount] = row;
-                depths[pairCount] = depth;
                 pairCount++;
             }
         }
 
-        private void keepRows(int head, int row) {
-            int before = Math.min(depths[head], MOST_PAIRS - 1);
-            shownRows[before] = row;
-            int at = head;
-            for (int k = before - 1; k >= 0; k--) {
-                shownRows[k] = cameBy[at];
-                at = cameFrom[at];
+        private void keepShown(int head, int row) {
+            shownFrom = head;
+            shownLast = row;
+            shownCount = 1;
+            for (int at = head; at > 0 && shownCount < MOST_PAIRS; at = cameFrom[at]) {
+                shownCount++;
             }
-            shownCount = before + 1;
         }
     }
 
