@@ -108,19 +108,16 @@ public final class EditionEqual {
     }
 
     public int tick(int edition, int state, int row) throws IllegalArgumentException, IllegalStateException {
-        checkEdition(edition);
         checkRow(row);
         Behaviour behaviour = behaviourOf(edition);
         return behaviour.outsOf(state, row) + OUTS * behaviour.stateAfter(state, row);
     }
 
     public int reached(int edition) throws IllegalArgumentException, IllegalStateException {
-        checkEdition(edition);
         return behaviourOf(edition).countReached();
     }
 
     public int state(int edition, int place) throws IllegalArgumentException, IllegalStateException {
-        checkEdition(edition);
         if (place < 0) {
             throw new IllegalArgumentException("a place is not below 0");
         }
@@ -128,7 +125,6 @@ public final class EditionEqual {
     }
 
     public int least(int edition) throws IllegalArgumentException, IllegalStateException {
-        checkEdition(edition);
         return behaviourOf(edition).countClasses(openRows());
     }
 
@@ -191,7 +187,9 @@ public final class EditionEqual {
     }
 
     private Behaviour behaviourOf(int edition) {
-        checkRight(editionOf(edition));
+        if (editionOf(edition).firstFault() != NONE) {
+            throw new IllegalStateException("the edition is not right");
+        }
         Behaviour behaviour = edition == 0 ? firstBehaviour : secondBehaviour;
         behaviour.learn(rowCount, openRows());
         return behaviour;
@@ -234,8 +232,9 @@ public final class EditionEqual {
     }
 
     private void checkBothRight() {
-        checkRight(firstEdition);
-        checkRight(secondEdition);
+        if (firstEdition.firstFault() != NONE || secondEdition.firstFault() != NONE) {
+            throw new IllegalStateException("one of the editions is not right");
+        }
     }
 
     private static void checkEdition(int edition) {
@@ -247,12 +246,6 @@ public final class EditionEqual {
     private static void checkBlock(Edition edition, int block) {
         if (!edition.hasBlock(block)) {
             throw new IllegalArgumentException("no such block");
-        }
-    }
-
-    private static void checkRight(Edition edition) {
-        if (edition.firstFault() != NONE) {
-            throw new IllegalStateException("an edition is not right");
         }
     }
 

@@ -439,10 +439,39 @@ public final class PromiseTest {
         illegalArgument("place -1", () -> x.state(0, -1));
         illegalArgument("place least", () -> x.state(0, Integer.MIN_VALUE));
         holesAmongReached();
+        rowZeroCounts();
         x.wire(0, 8, 1, NONE);
         illegalState("reached, not right", () -> x.reached(0));
         illegalState("state, not right", () -> x.state(0, 0));
         due("reached of the right one", 1, () -> x.reached(1));
+    }
+
+    /** A state that row 0 alone leads to, and outs that row 0 alone tells, at once or later. */
+    private static void rowZeroCounts() {
+        EditionEqual x = new EditionEqual(1);
+        x.block(0, POINT, 0);
+        x.block(0, NOT, 0);
+        x.block(0, DELAY, 0);
+        x.block(0, BOTH, 0);
+        x.block(0, DELAY, 0);
+        x.wire(0, 1, 0, 0);
+        x.wire(0, 2, 0, 1);
+        x.wire(0, 3, 0, 1);
+        x.wire(0, 3, 1, 2);
+        x.wire(0, 4, 0, 2);
+        x.bar(1, true);
+        due("reached by row 0 alone", 3, () -> x.reached(0));
+        due("the last of them", 3, () -> x.state(0, 2));
+        x.bar(1, false);
+        due("reached by both", 4, () -> x.reached(0));
+        x.out(0, 0, 3);
+        due("row 0 alone tells", 2, () -> x.least(0));
+        due("shown by row 0 twice", 2, () -> x.compare());
+        due("first of them", 0, () -> x.shown(0));
+        due("second of them", 0, () -> x.shown(1));
+        x.wire(0, 4, 0, 3);
+        x.out(0, 0, 4);
+        due("row 0 leads to what tells", 3, () -> x.least(0));
     }
 
     /** Five delays, all fed with one: 0 and 31 are reached, the top bit of an int among them. */
@@ -668,6 +697,7 @@ public final class PromiseTest {
         due("inputs changed round", false, () -> x.same());
         sortsOfBlocks();
         matchedWithTwo();
+        idleFirstAndAllMatched();
         for (int wild : WILD) {
             illegalArgument("matched(" + wild + ")", () -> x.matched(wild));
         }
@@ -715,6 +745,37 @@ public final class PromiseTest {
         x.wire(edition, 1, 0, 0);
         x.wire(edition, 1, 1, 0);
         x.out(edition, 0, 1);
+    }
+
+    private static void idleFirstAndAllMatched() {
+        EditionEqual x = new EditionEqual(1);
+        for (int edition = 0; edition < 2; edition++) {
+            x.block(edition, NOT, 0);
+            x.block(edition, POINT, 0);
+            x.wire(edition, 0, 0, 1);
+        }
+        due("all are idle", true, () -> x.same());
+        x.out(0, 0, 1);
+        x.out(1, 0, 1);
+        due("an idle block 0 with an input", true, () -> x.same());
+        due("it is not matched", NONE, () -> x.matched(0));
+        due("the other one is", 1, () -> x.matched(1));
+        EditionEqual y = new EditionEqual(1);
+        for (int i = 0; i < 24; i++) {
+            y.block(0, i == 0 ? POINT : NOT, 0);
+            y.block(1, i == 23 ? POINT : NOT, 0);
+        }
+        for (int i = 1; i < 24; i++) {
+            y.wire(0, i, 0, i - 1);
+            y.wire(1, 23 - i, 0, 24 - i);
+        }
+        y.out(0, 1, 23);
+        y.out(1, 1, 0);
+        due("all blocks in a chain", true, () -> y.same());
+        for (int block = 0; block < 24; block++) {
+            int b = block;
+            due("chain's block " + b, 23 - b, () -> y.matched(b));
+        }
     }
 
     private static void matchedWithTwo() {
@@ -832,5 +893,10 @@ public final class PromiseTest {
         due("reached behind wire", 2, () -> x.reached(1));
         x.bar(0, true);
         due("shown behind bar", 2, () -> x.pairs());
+        due("value behind wire", 1, () -> x.value(1, 2, 0, 1));
+        x.block(1, FIXED, 1);
+        due("value of a block added behind a question", 1, () -> x.value(1, 3, 0, 1));
+        x.block(1, POINT, 0);
+        due("value of a point added behind a question", 1, () -> x.value(1, 4, 0, 1));
     }
 }

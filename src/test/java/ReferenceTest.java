@@ -601,9 +601,9 @@ public final class ReferenceTest {
             call(2, edition, some(3), random.nextBoolean() ? delays : 2 * delays + 1);
         }
 
-        /** Edition 1 as edition 0 with its blocks in another order, so that same and alike come up. */
-        void copy() {
-            Side from = model.sides[0];
+        /** One edition as the other one with its blocks in another order, so that same and alike come up. */
+        void copy(int source) {
+            Side from = model.sides[source];
             int blocks = from.parts.size();
             List<Integer> order = new ArrayList<>();
             for (int i = 0; i < blocks; i++) {
@@ -611,17 +611,17 @@ public final class ReferenceTest {
             }
             java.util.Collections.shuffle(order, random);
             for (int old : order) {
-                call(0, 1, from.parts.get(old).kind, from.parts.get(old).number);
+                call(0, 1 - source, from.parts.get(old).kind, from.parts.get(old).number);
             }
             for (int i = 0; i < blocks; i++) {
                 for (int input = 0; input < 2; input++) {
                     int to = from.parts.get(order.get(i)).wires[input];
-                    call(1, 1, i, input, to == NONE ? NONE : order.indexOf(to));
+                    call(1, 1 - source, i, input, to == NONE ? NONE : order.indexOf(to));
                 }
             }
             for (int output = 0; output < 3; output++) {
                 int block = from.outputs[output];
-                call(2, 1, output, block == NONE ? NONE : order.indexOf(block));
+                call(2, 1 - source, output, block == NONE ? NONE : order.indexOf(block));
             }
         }
 
@@ -703,15 +703,16 @@ public final class ReferenceTest {
         }
 
         void play() {
+            int first = some(2);
             if (random.nextInt(3) == 0) {
-                buildDeep(0);
+                buildDeep(first);
             } else {
-                build(0);
+                build(first);
             }
             if (random.nextBoolean()) {
-                copy();
+                copy(first);
             } else {
-                build(1);
+                build(1 - first);
             }
             if (random.nextInt(4) != 0) {
                 mend(0);
