@@ -90,6 +90,8 @@ public final class BoundaryTest {
         says("8: other bits of the state are not asked", BoundaryTest::tickByOtherBits);
         says("8: also a barred row", BoundaryTest::tickByBarredRows);
         says("8: illegal state: the edition is not right", BoundaryTest::tickNotRight);
+        says("terms: 0 in the first tick", BoundaryTest::delaysInFirstTick);
+        says("terms: 1 if just one of them is 1", BoundaryTest::bothInputsAtOneBlock);
     }
 
     private static void statesReached() {
@@ -130,6 +132,7 @@ public final class BoundaryTest {
         says("16: without outputs", BoundaryTest::sameWithoutOutputs);
         says("16: the same kind", BoundaryTest::sameKinds);
         says("16: (and number, for POINT and FIXED)", BoundaryTest::sameNumbers);
+        says("16: at the same needed inputs of matched ones", BoundaryTest::sameNeededInputs);
         says("16: no block is matched with two", BoundaryTest::matchedWithTwo);
         says("16: no output is a block in one edition alone", BoundaryTest::outputInOneAlone);
         says("16: illegal state: one is not right", BoundaryTest::sameNotRight);
@@ -139,6 +142,7 @@ public final class BoundaryTest {
         says("18: the k-th (from 0, by numbers)", BoundaryTest::idleFromFirstToLast);
         says("18: NONE", BoundaryTest::idleBeyond);
         says("18: also if k is below 0", BoundaryTest::idleBelow);
+        says("18: at a needed input of a live one", BoundaryTest::liveByNeededInputs);
         says("18: also of an edition that is not right", BoundaryTest::idleNotRight);
         says("19: how many blocks, from none to 24", BoundaryTest::blocksFromNoneToAll);
     }
@@ -636,8 +640,7 @@ public final class BoundaryTest {
                 x.block(0, kind, 0);
                 x.wire(0, 1, 1 - input, 0);
                 x.wire(0, 1, input, 1);
-                boolean needed = input == 0 || kind >= BOTH && kind <= UNLIKE;
-                int want = needed && kind != DELAY ? 1 : NONE;
+                int want = isNeeded(kind, input) && kind != DELAY ? 1 : NONE;
                 due("kind " + kind + " by input " + input, want, () -> x.wrong(0));
             }
         }
@@ -835,6 +838,31 @@ public final class BoundaryTest {
             due("one comes back to itself", STATE, () -> x.tick(e, 0, 0));
             x.wire(e, x.blocks(e) - 1, 0, 0);
             due("mended", 8, () -> x.tick(e, 0, 1));
+        }
+    }
+
+    private static void delaysInFirstTick() {
+        for (int delays = 1; delays <= 5; delays++) {
+            EditionEqual x = new EditionEqual(1);
+            addShifts(x, 0, 0, delays);
+            x.wire(0, 1, 0, x.block(0, FIXED, 1));
+            x.out(1, 0, x.block(1, FIXED, 1));
+            due(delays + " delays of 1 and 1 itself", 1, () -> x.compare());
+            due("the last delay tells", 0, () -> x.last(0));
+            x.out(1, 0, NONE);
+            due(delays + " delays of 1 and 0", delays + 1, () -> x.compare());
+            due("then the last delay tells", 1, () -> x.last(0));
+        }
+    }
+
+    private static void bothInputsAtOneBlock() {
+        EditionEqual x = new EditionEqual(1);
+        x.block(0, POINT, 0);
+        int[][] wantByKind = {{BOTH, 0, 1}, {EITHER, 0, 1}, {UNLIKE, 0, 0}};
+        for (int[] want : wantByKind) {
+            int block = add(x, 0, want[0], 0, 0);
+            due("kind " + want[0] + " of 0 and 0", want[1], () -> x.value(0, block, 0, 0));
+            due("kind " + want[0] + " of 1 and 1", want[2], () -> x.value(0, block, 0, 1));
         }
     }
 
@@ -1295,6 +1323,30 @@ public final class BoundaryTest {
         due("the least and the greatest number", true, () -> y.same());
     }
 
+    /** Inputs 0 and 1 go to a point and to 0, in edition 1 as well; then one of them to the other. */
+    private static void sameNeededInputs() {
+        for (int kind = POINT; kind <= DELAY; kind++) {
+            for (int input = 0; input < 2; input++) {
+                EditionEqual x = new EditionEqual(1);
+                for (int edition = 0; edition < 2; edition++) {
+                    x.block(edition, POINT, 0);
+                    x.block(edition, FIXED, 0);
+                    x.block(edition, kind, 0);
+                    x.wire(edition, 2, 0, 0);
+                    x.wire(edition, 2, 1, 1);
+                    x.out(edition, 1, 2);
+                }
+                due("kind " + kind + " with the same inputs", true, () -> x.same());
+                x.wire(1, 2, input, 1 - input);
+                due("kind " + kind + " with another input " + input, !isNeeded(kind, input), () -> x.same());
+            }
+        }
+    }
+
+    private static boolean isNeeded(int kind, int input) {
+        return input == 0 ? kind >= NOT : kind >= BOTH && kind <= UNLIKE;
+    }
+
     private static void putBehindPoint(EditionEqual x, int edition, int kind, int number) {
         x.block(edition, POINT, 0);
         x.block(edition, kind, number);
@@ -1430,6 +1482,19 @@ public final class BoundaryTest {
         refused("of 24", BELOW_ZERO, k -> x.idle(0, k));
         x.wire(0, 1, 0, NONE);
         refused("not right", BELOW_ZERO, k -> x.idle(0, k));
+    }
+
+    private static void liveByNeededInputs() {
+        for (int kind = POINT; kind <= DELAY; kind++) {
+            for (int input = 0; input < 2; input++) {
+                EditionEqual x = new EditionEqual(1);
+                addBlocks(x, 0, FIXED, 23);
+                x.block(0, kind, 0);
+                x.out(0, 0, 23);
+                x.wire(0, 23, input, 0);
+                due("kind " + kind + " by input " + input, isNeeded(kind, input) ? 1 : 0, () -> x.idle(0, 0));
+            }
+        }
     }
 
     private static void idleNotRight() {
