@@ -537,9 +537,11 @@ public final class EditionEqual {
         }
 
         private void fillColumns(int row) {
-            for (int place = 0; place < orderedCount; place++) {
+            for (int place = 0; place < orderedCount && place < MOST_BLOCKS; place++) {
                 int block = order[place];
-                columns[row * MOST_BLOCKS + block] = workOutColumn(block, row);
+                if (isWithin(block, MOST_BLOCKS)) {
+                    columns[row * MOST_BLOCKS + block] = workOutColumn(block, row);
+                }
             }
         }
 
@@ -726,9 +728,9 @@ public final class EditionEqual {
             }
             int at = shownFrom;
             for (int back = shownCount - 2; back > k; back--) {
-                at = cameFrom[at];
+                at = placeBefore(at);
             }
-            return cameBy[at];
+            return isWithin(at, MOST_PAIRS) ? cameBy[at] : NONE;
         }
 
         int lastOuts(int edition) {
@@ -765,9 +767,14 @@ public final class EditionEqual {
             shownFrom = head;
             shownLast = row;
             shownCount = 1;
-            for (int at = head; at > 0 && shownCount < MOST_PAIRS; at = cameFrom[at]) {
+            for (int at = head; at > 0 && shownCount < MOST_PAIRS; at = placeBefore(at)) {
                 shownCount++;
             }
+        }
+
+        /** Where in the queue the pair stands that led to the one at a place. */
+        private int placeBefore(int at) {
+            return isWithin(at, MOST_PAIRS) ? cameFrom[at] : 0;
         }
     }
 

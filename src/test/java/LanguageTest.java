@@ -6,6 +6,8 @@ import java.nio.file.Files;
 import java.nio.file.Path;
 import java.util.ArrayList;
 import java.util.List;
+import java.util.Map;
+import java.util.TreeMap;
 import java.util.regex.Matcher;
 import java.util.regex.Pattern;
 
@@ -39,12 +41,53 @@ public final class LanguageTest {
         while (thrown.find()) {
             require(thrown.group(1).matches("new Illegal(Argument|State)Exception\\(\"\"\\)"), thrown.group());
         }
+        lookAtHeadings(text);
         lookAtClasses();
+        lookAtMethods(code);
         lookAtRoom();
         System.out.println(failures == 0 ? "the language is kept" : failures + " rules are not kept");
         if (failures != 0) {
             System.exit(1);
         }
+    }
+
+    /** The document's three headings, each right ahead of the call that it names first. */
+    private static void lookAtHeadings(String text) {
+        String[][] headings = {{"ticks", "int value("}, {"both", "int compare("}, {"structure", "boolean same("}};
+        for (String[] heading : headings) {
+            Pattern ahead = Pattern.compile("// ---- " + heading[0] + "\n\n    public " + Pattern.quote(heading[1]));
+            require(ahead.matcher(text).find(), "---- " + heading[0] + " ahead of " + heading[1]);
+        }
+    }
+
+    /** Lengths of methods, and how deep they call one another; those of one name count as one. */
+    private static void lookAtMethods(String code) {
+        Pattern starts = Pattern.compile("(?m)^((?: {4}| {8}))(?:\\w+ )*(\\w+)\\([^;{}]*\\{\n((?s).*?)^\\1\\}$");
+        Map<String, String> bodies = new TreeMap<>();
+        Matcher methods = starts.matcher(code);
+        while (methods.find()) {
+            String name = methods.group(2);
+            long lines = methods.group().lines().count();
+            require(lines <= 60, name + " has at most sixty lines, not " + lines);
+            bodies.merge(name, methods.group(3), String::concat);
+        }
+        require(bodies.size() > 60, "methods are found (" + bodies.size() + ")");
+        for (String name : bodies.keySet()) {
+            int depth = depthOf(name, bodies, 0);
+            require(depth <= 8, name + " calls at most eight deep, not " + depth);
+        }
+    }
+
+    /** A method that calls itself comes out far too deep, so that it is found here too. */
+    private static int depthOf(String name, Map<String, String> bodies, int open) {
+        int deepest = 0;
+        Matcher calls = Pattern.compile("\\b(\\w+)\\(").matcher(bodies.get(name));
+        while (open < 10 && calls.find()) {
+            if (bodies.containsKey(calls.group(1))) {
+                deepest = Math.max(deepest, depthOf(calls.group(1), bodies, open + 1));
+            }
+        }
+        return 1 + deepest;
     }
 
     private static void lookAtClasses() {
@@ -60,6 +103,7 @@ public final class LanguageTest {
             for (Field field : each.getDeclaredFields()) {
                 boolean fixed = Modifier.isStatic(field.getModifiers());
                 require(!fixed || Modifier.isFinal(field.getModifiers()), field + " is final");
+                require(!fixed || field.getType() == int.class || field.getType() == int[].class, field + " is of int");
                 fields += fixed ? 0 : 1;
             }
             require(fields <= 20, each.getName() + " has at most twenty fields");

@@ -1,5 +1,6 @@
 import java.lang.reflect.Constructor;
 import java.lang.reflect.Field;
+import java.lang.reflect.Member;
 import java.lang.reflect.Method;
 import java.lang.reflect.Modifier;
 import java.util.Set;
@@ -69,28 +70,63 @@ public final class PromiseTest {
         }
     }
 
+    /** The document's face, line by line: constants, constructor and methods, with what they throw. */
+    private static final String[] FACE = {
+        "public static final int NONE",
+        "public EditionEqual(int)",
+        "public int block(int,int,int) throws IllegalArgumentException,IllegalStateException",
+        "public int wire(int,int,int,int) throws IllegalArgumentException",
+        "public int out(int,int,int) throws IllegalArgumentException",
+        "public boolean bar(int,boolean) throws IllegalArgumentException",
+        "public int wrong(int) throws IllegalArgumentException",
+        "public int value(int,int,int,int) throws IllegalArgumentException,IllegalStateException",
+        "public int tick(int,int,int) throws IllegalArgumentException,IllegalStateException",
+        "public int reached(int) throws IllegalArgumentException,IllegalStateException",
+        "public int state(int,int) throws IllegalArgumentException,IllegalStateException",
+        "public int least(int) throws IllegalArgumentException,IllegalStateException",
+        "public int compare() throws IllegalStateException",
+        "public int shown(int) throws IllegalArgumentException,IllegalStateException",
+        "public int last(int) throws IllegalArgumentException,IllegalStateException",
+        "public int pairs() throws IllegalStateException",
+        "public boolean same() throws IllegalStateException",
+        "public int matched(int) throws IllegalArgumentException,IllegalStateException",
+        "public int idle(int,int) throws IllegalArgumentException",
+        "public int blocks(int) throws IllegalArgumentException"};
+
     private static void face() {
-        Set<String> want = new TreeSet<>(Set.of("block", "wire", "out", "bar", "wrong", "value", "tick", "reached",
-                "state", "least", "compare", "shown", "last", "pairs", "same", "matched", "idle", "blocks"));
+        Set<String> names = new TreeSet<>();
         Set<String> got = new TreeSet<>();
         for (Method method : EditionEqual.class.getDeclaredMethods()) {
-            if (!Modifier.isPrivate(method.getModifiers()) && !method.isSynthetic()) {
-                got.add(method.getName());
-                due(method.getName() + " is public", true, () -> Modifier.isPublic(method.getModifiers()));
-            } else {
-                due(method.getName() + " bears no public name", false, () -> want.contains(method.getName()));
+            if (isOpen(method)) {
+                got.add(plain(method.toGenericString()));
+                names.add(method.getName());
             }
         }
-        due("methods of the face", want, () -> got);
         for (Field field : EditionEqual.class.getDeclaredFields()) {
-            boolean hidden = Modifier.isPrivate(field.getModifiers()) || field.isSynthetic();
-            due(field.getName() + " is private or NONE", true, () -> hidden || field.getName().equals("NONE"));
+            if (isOpen(field)) {
+                got.add(plain(field.toGenericString()));
+            }
         }
         for (Constructor<?> constructor : EditionEqual.class.getDeclaredConstructors()) {
-            due("constructor takes points", 1, () -> constructor.getParameterCount());
+            if (isOpen(constructor)) {
+                got.add(plain(constructor.toGenericString()));
+            }
         }
-        due("the class is final", true, () -> Modifier.isFinal(EditionEqual.class.getModifiers()));
+        due("the face, and no more", new TreeSet<>(Set.of(FACE)), () -> got);
+        for (Method method : EditionEqual.class.getDeclaredMethods()) {
+            due(method.getName() + " bears no public name", false,
+                    () -> !isOpen(method) && names.contains(method.getName()));
+        }
+        due("the class is public and final", Modifier.PUBLIC | Modifier.FINAL, () -> EditionEqual.class.getModifiers());
         due("NONE", -1, () -> EditionEqual.NONE);
+    }
+
+    private static boolean isOpen(Member member) {
+        return !Modifier.isPrivate(member.getModifiers()) && !member.isSynthetic();
+    }
+
+    private static String plain(String signature) {
+        return signature.replace("java.lang.", "").replace("EditionEqual.", "");
     }
 
     private static void promise1NewObject() {
